@@ -263,7 +263,7 @@ public final class ThunderOwned {
         if (readingCount >= MOST_READINGS) {
             return FULL;
         }
-        readingNights[readingCount] = t;
+        readingNights[readingCount] = Math.min(t, Parish.MOST_NIGHTS_OF_CHANGE);
         readingVoices[readingCount] = v;
         readingCount++;
         return readingCount - 1;
@@ -720,6 +720,11 @@ public final class ThunderOwned {
 
     private static final class Parish {
         private static final int MOST_HOUSES = 5, MOST_STONES = 4;
+        /**
+         * VOICE stays as it is behind so many nights: in 9 nobody has SLEEP left, in 5 more it has hung over
+         * each HOUSE that it ever comes to, and then it lays a STONE a night or none at all.
+         */
+        private static final int MOST_NIGHTS_OF_CHANGE = MOST_SLEEP + MOST_HOUSES + MOST_STONES;
 
         private final House[] houses = new House[MOST_HOUSES];
         private final Stone[] stones = new Stone[MOST_STONES];
@@ -885,7 +890,8 @@ public final class ThunderOwned {
 
         /** In how many nights it is QUIET; NONE: in more than so many. The nights go by. */
         private int nightsUntilQuiet(int most) {
-            for (int nights = 0; nights <= most; nights++) {
+            int last = Math.min(most, MOST_NIGHTS_OF_CHANGE);
+            for (int nights = 0; nights <= last; nights++) {
                 if (voice() == 0) {
                     return nights;
                 }

@@ -196,6 +196,7 @@ public final class NightsTest {
         dayFault(x, x.day(1, 1, 3, 1, 1), 0, 0);
         Checks.row(x, 1, 2, 4, 15);
         dayFault(x, x.day(1, 2, 0, 2, 1), ThunderOwned.OUTSIDE, 0);
+        dayFault(x, x.day(1, 2, 0, 1, 1), 0, 0);
     }
 
     private static void dayFault(ThunderOwned x, int got, int want, int fault) {

@@ -16,6 +16,7 @@ public final class ParishTest {
 
     private static void newObject() {
         ThunderOwned x = new ThunderOwned();
+        Checks.due("new fault", x.fault(), 0);
         for (int what = 0; what <= 6; what++) {
             Checks.due("new many(" + what + ")", x.many(what), 0);
         }
@@ -157,6 +158,8 @@ public final class ParishTest {
         x.own(0);
         x.lay(0);
         x.reading(0, 3);
+        // what a guess went through must not come into the new parish, either
+        Checks.due("a guess", x.behind(4, 0), 0);
         Checks.due("taken", Checks.text(x, "t2;b51;p32!8"), 2);
         Checks.due("nights anew", x.many(2), 0);
         Checks.due("hats anew", x.many(3), 0);
@@ -164,12 +167,23 @@ public final class ParishTest {
         Checks.due("hangs anew", x.many(5), 0);
         Checks.due("voice anew", x.many(6), 17);
         Checks.due("owned anew", x.ofHouse(0, 4), 0);
+        Checks.due("owned anew, the other", x.ofHouse(1, 4), 0);
+        Checks.due("hats of one anew", x.ofHouse(0, 6), 0);
         Checks.due("sleep anew", x.ofHouse(0, 2), 1);
         Checks.due("laid anew", x.ofStone(0, 1), 0);
         Checks.due("trace is none of it", x.trace(), 1);
         Checks.due("without stones", Checks.text(x, "t2;p11"), 1);
         Checks.due("no stone", x.ofStone(0, 0), ThunderOwned.UNKNOWN);
         Checks.due("no second house", x.ofHouse(1, 0), ThunderOwned.UNKNOWN);
+        ThunderOwned fewer = Checks.parish("t1;p19;p00");
+        fewer.own(1);
+        fewer.behind(1, 0);
+        Checks.due("fewer houses", Checks.text(fewer, "t1;p19"), 1);
+        Checks.due("no hats of those before", fewer.many(3), 0);
+        Checks.due("nor where it hung in a guess", fewer.many(5), 0);
+        ThunderOwned full = Checks.parish("t1;p19;p00;p00;p00;p00");
+        full.own(4);
+        Checks.due("hats of five houses", full.many(3), 1);
     }
 
     private static void houses() {

@@ -26,6 +26,8 @@ public final class ReadingsTest {
         Checks.due("full", x.reading(0, 0), ThunderOwned.FULL);
         Checks.due("outside ahead of full", x.reading(0, 201), ThunderOwned.OUTSIDE);
         Checks.due("many", x.many(4), 8);
+        Checks.due("by all eight", x.wrongs(0), 0);
+        Checks.due("by the first", x.back(7) == 1 ? x.wrongs(0) : -100, 1);
     }
 
     private static void takenBack() {

@@ -25,10 +25,12 @@ public final class SheetsTest {
         Checks.due("it has nothing yet", x.lose(0), 0);
         answer(x, "sheet(0, 0, 60)", x.sheet(0, 0, 60), 1, 0);
         answer(x, "put the last", x.put(0, 59, 5), 1, 0);
+        answer(x, "put the first", x.put(0, 0, 6), 1, 0);
         answer(x, "sheet too short", x.sheet(0, 1, Integer.MIN_VALUE), -14, 4);
         Checks.due("the row is as it was", x.cell(0, 59, 0), 5);
         answer(x, "sheet(0, 2, 60)", x.sheet(0, 2, 60), 1, 0);
         Checks.due("a new row is 0", x.cell(0, 59, 2), 0);
+        Checks.due("from the first on", x.cell(0, 0, 2), 0);
         answer(x, "sheet(3, 2, 0)", x.sheet(3, 2, 0), 1, 0);
         answer(x, "none of its cells", x.put(3, 0, 1), -13, 3);
     }
@@ -204,6 +206,31 @@ public final class SheetsTest {
         Checks.due("then the null", x.fault(), 1);
         x.sheet(9, 0, 0);
         Checks.due("refused", x.fault(), 0);
+        Checks.row(x, 0, 0, "t1;p31".chars().toArray());
+        clears(x, "sheet", 0);
+        clears(x, "put", 1);
+        clears(x, "cell", 2);
+        clears(x, "copy", 3);
+        clears(x, "parish", 4);
+        clears(x, "day", 5);
+        clears(x, "as", 6);
+    }
+
+    /** A call that names faults and comes to none wipes out the one ahead of it. */
+    private static void clears(ThunderOwned x, String name, int call) {
+        x.put(3, 0, 0);
+        Checks.due("a fault ahead of " + name, x.fault(), 1);
+        long got = switch (call) {
+            case 0 -> x.sheet(1, 0, 1);
+            case 1 -> x.put(1, 0, 1);
+            case 2 -> x.cell(1, 0, 0);
+            case 3 -> x.copy(1, 0, 1, 0, 1);
+            case 4 -> x.parish(0, 0, 0, 6);
+            case 5 -> x.day(1, 0, 0, 0, 2) + 1;
+            default -> x.as(0, 0);
+        };
+        Checks.due(name, got, 1);
+        Checks.due("none behind " + name, x.fault(), 0);
     }
 
     private static void manies() {

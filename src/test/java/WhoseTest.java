@@ -21,6 +21,9 @@ public final class WhoseTest {
         Checks.due("before", x.behind(nights - 1, 0) > 0 ? 1 : 0, 1);
         Checks.due("then", x.behind(nights, 0), 0);
         Checks.due("nothing is changed", x.many(6), 54);
+        Checks.due("the same again", x.quiet(), nights);
+        x.night(nights - 1);
+        Checks.due("from how it is now", x.quiet(), 1);
     }
 
     private static void fewestSets() {
